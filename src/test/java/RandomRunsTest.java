@@ -41,7 +41,7 @@ public final class RandomRunsTest {
 
     private boolean go() {
         tellText(startText());
-        while (calls < 380 && !wrong) {
+        while (calls < 350 && !wrong) {
             step();
         }
         for (int i = 0; i < 7 && !wrong; i++) {
