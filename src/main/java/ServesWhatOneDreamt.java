@@ -661,23 +661,21 @@ public final class ServesWhatOneDreamt {
     }
 
     private int rowRefusal(int d) {
-        if (!isShelf(d)) {
-            return NO_SUCH;
-        }
-        if (shelves[d].holds == Shelf.NOTHING) {
-            return NOTHING_HELD;
-        }
-        return shelves[d].holds == Shelf.ROW ? FINE : OTHER_KIND;
+        return refusalUnless(d, Shelf.ROW);
     }
 
     private int kindRefusal(int d) {
+        return refusalUnless(d, Shelf.KIND);
+    }
+
+    private int refusalUnless(int d, int wanted) {
         if (!isShelf(d)) {
             return NO_SUCH;
         }
         if (shelves[d].holds == Shelf.NOTHING) {
             return NOTHING_HELD;
         }
-        return shelves[d].holds == Shelf.KIND ? FINE : OTHER_KIND;
+        return shelves[d].holds == wanted ? FINE : OTHER_KIND;
     }
 
     private static boolean within(int v, int low, int high) {

@@ -67,6 +67,11 @@ public final class BestPromisesTest {
         x.fills(0, 99);
         x.fills(1, 99);
         due("99 are not more", x.buy(60) == 0 ? 0 : 1, 1);
+        // In 9 nights a murderer lacks 4 and a plain one 5; then 5 and 6.
+        x = Check.inn("g400;g100;l102;");
+        due("5 more do for 5", x.buy(9), 1);
+        x = Check.inn("g400;g100;l004;l101;");
+        due("but not for 6", x.buy(9), 0);
         x = new ServesWhatOneDreamt();
         due("nobody", x.buy(60), -4);
     }
@@ -90,6 +95,10 @@ public final class BestPromisesTest {
         due("100 less 4", x.least(0, 20), 96);
         x = Check.inn("g400;g400;g400;g400;g400;g201;");
         due("a bride eats 2 of each in turn", x.least(2, 1), 2);
+        // Six murderers eat 96 in 16 nights, the cook 5; 2 come in night 10.
+        x = Check.inn("g310;g400;g400;g400;g400;g400;g400;");
+        due("99 do", x.least(0, 16), 99);
+        due("99 do not", x.least(0, 17), -4);
         x = Check.inn("g404;g404;g404;g404;g404;g404;");
         due("116 are too many", x.least(0, 20), -4);
         due("96 do for 16", x.least(0, 16), 94);
@@ -168,6 +177,7 @@ public final class BestPromisesTest {
         same("l005;", 0, -4, 0, 50, 0, 0, 0);
         same("g004;g004;g004;g005;l306;l709;l809;l200;l000;", 3, 0, 7, 49, 5, 48, 1);
         same("g004;g203;g104;g001;h220;e25;e19;", 2, 0, 0, 50, 0, 26, 545);
+        same("g004;e07;", 0, 0, 0, 50, 0, 16, 128);
         same("g300;g300;h151;", 0, 1, 0, 50, 0, 1, 1);
         same("g009;g004;g004;h003;e07;l900;l400;d01;", 1, 1, 1, 42, 528, 16, 1);
     }

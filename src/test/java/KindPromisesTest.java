@@ -131,6 +131,10 @@ public final class KindPromisesTest {
         due("gone", x.two(1, 2, 1), -3);
         due("one twice, before gone", x.two(2, 2, 1), -1);
         due("no night, before gone", x.two(2, 1, 0), -1);
+        // In night 2 the cook has 7 of 2 and 8 of 1, the guest 0 of 5 and 2 of 1.
+        x = Check.inn("g302;g005;d01;");
+        due("2 less for not telling", x.two(0, 1, 1), 10);
+        due("2 less for not telling", x.two(1, 0, 1), 1);
         // Widowers: 48, 50 | 52, 48 | 50, 46 | 50, 48 if they say 01, 00, 11, 10: none stays.
         x = Check.inn("g611;g615;");
         due("no pair", x.two(0, 1, 4), -4);

@@ -54,7 +54,9 @@ public final class ShelfPromisesTest {
         due("row(0, 1, 100)", x.row(0, 1, 100), 0);
         due("0 at first, again", Check.element(x, 0, 99), 0);
         x.put(0, 3, 9);
+        x.put(0, 0, 9);
         due("row(0, 1, 2)", x.row(0, 1, 2), 0);
+        due("0 at first, again", Check.element(x, 0, 0), 0);
         due("row(0, 1, 5)", x.row(0, 1, 5), 0);
         due("0 at first, again", Check.element(x, 0, 3), 0);
         due("row(8, 0, 1)", x.row(8, 0, 1), -1);
@@ -158,6 +160,10 @@ public final class ShelfPromisesTest {
         due("a kind", x.copy(3, 0, 0, 0, 1), -12);
         due("a kind", x.copy(0, 0, 3, 0, 1), -12);
         due("two kinds", x.copy(3, 0, 3, 0, 0), -12);
+        x.row(3, 1, 4);
+        x.keep(3, 1, 0, 0);
+        due("a kind where a row was", x.copy(3, 0, 0, 0, 1), -12);
+        due("a kind where a row was", x.copy(0, 0, 3, 0, 1), -12);
         x.row(3, 0, 4);
         due("another sort", x.copy(0, 0, 3, 0, 1), -12);
         due("another sort, before no place", x.copy(0, 9, 3, 0, 1), -12);

@@ -89,6 +89,9 @@ public final class SlatePromisesTest {
         due("only in mind", x.larder(0), 5);
         x.nights(2);
         due("served more", x.years(1, 1, 0), 6);
+        // In nights 9 to 20 plate 0 comes twice, the second time in the last of 12 nights.
+        x = Check.inn("g400;d08;");
+        due("12 nights", x.years(1, 1, 0), 7);
         // A guest's wish is 8, of which there are 4086 modulo 6, none, and 2 of night 8.
         x = Check.inn("g004;");
         due("a guest's wish", x.years(1, 1, 0), 2);
