@@ -303,13 +303,15 @@ public final class ServesWhatOneDreamt {
         if (!isWhile(n)) {
             return NO_SUCH;
         }
-        int most = healthThen(now.there, n);
+        int most = -1;
         int best = NONE;
         for (int g = 0; g < now.guests; g++) {
             if (now.isThere(g)) {
-                int others = healthThen(now.there & ~(1 << g), n);
-                if (others > most) {
-                    most = others;
+                int others = now.there & ~(1 << g);
+                int alone = healthThen(others, others, n);
+                // "As it is" is the same others' too: his own HEALTH is never set against theirs.
+                if (alone > most && alone > healthThen(others, now.there, n)) {
+                    most = alone;
                     best = g;
                 }
             }
@@ -317,12 +319,12 @@ public final class ServesWhatOneDreamt {
         return best;
     }
 
-    /** HEALTH of those who stay, together, behind n NIGHTS, if just they (bits) are THERE now. */
-    private int healthThen(int staying, int n) {
+    /** HEALTH of some (bits), together, behind n NIGHTS, if just those staying (bits) are THERE now. */
+    private int healthThen(int whom, int staying, int n) {
         Inn later = inMind();
         later.there = staying;
         later.pass(n);
-        return later.healthOf(later.there);
+        return later.healthOf(whom & later.there);
     }
 
     public int seats(int i) {

@@ -570,26 +570,30 @@ final class Model {
             return -1;
         }
         int best = -4;
-        int most = together(-1, n);
+        int most = 0;
         for (int g = 0; g < inn.guests.size(); g++) {
-            if (inn.guests.get(g).there && together(g, n) > most) {
-                most = together(g, n);
-                best = g;
+            if (inn.guests.get(g).there) {
+                int sent = othersThen(g, true, n);
+                int asItIs = othersThen(g, false, n);
+                if (sent > asItIs && (best == -4 || sent > most)) {
+                    most = sent;
+                    best = g;
+                }
             }
         }
         return best;
     }
 
-    private int together(int sent, int n) {
+    private int othersThen(int g, boolean sent, int n) {
         Inn other = inn.again();
-        if (sent >= 0) {
-            other.guests.get(sent).there = false;
+        if (sent) {
+            other.guests.get(g).there = false;
         }
         other = other.on(n);
         int sum = 0;
-        for (int g = 0; g < inn.guests.size(); g++) {
-            if (g != sent && inn.guests.get(g).there && other.guests.get(g).there) {
-                sum += other.guests.get(g).health;
+        for (int o = 0; o < inn.guests.size(); o++) {
+            if (o != g && inn.guests.get(o).there && other.guests.get(o).there) {
+                sum += other.guests.get(o).health;
             }
         }
         return sum;
