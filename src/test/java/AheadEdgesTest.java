@@ -173,6 +173,13 @@ public final class AheadEdgesTest {
         due("2 come and 2 are eaten", x.larderThen(2, 1), 0);
         x.fills(2, 1);
         due("1 is left every time", x.out(2), -4);
+        // From night 5 on 2 come six times in 60 nights, the last time in night 61.
+        x = Told.inNight(5, "g100;l148;");
+        due("behind 60, in night 65", x.out(1), 60);
+        x.fills(1, 49);
+        due("behind 61, in night 66", x.out(1), -4);
+        x.nights(1);
+        due("behind 60 more", x.out(1), 60);
         x = Told.inNight(999, "g004;l401;");
         due("in night 1000", x.out(4), 1);
     }

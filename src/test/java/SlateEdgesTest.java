@@ -15,6 +15,7 @@ public final class SlateEdgesTest {
         whatWishSkips();
         two();
         twoTies();
+        twoBelow0();
         twoWithoutAPair();
         nightmaresLeastAndMost();
         nightmaresByThemselves();
@@ -27,6 +28,7 @@ public final class SlateEdgesTest {
         yearsOfAll();
         drawsWrapAround();
         image();
+        imageOfSeven();
         imageOfNobody();
         imageButShelves();
         count();
@@ -193,6 +195,14 @@ public final class SlateEdgesTest {
         due("neither tells", x.two(0, 1, 1), 0);
         x.fills(1, 0);
         due("there are 2 for them", x.two(0, 1, 1), 0);
+    }
+
+    /** "2 less for not telling": less than the 0 of one GONE, too. */
+    private static void twoBelow0() {
+        ServesWhatOneDreamt x = Check.inn("g500;g500;h003;h103;");
+        due("both are gone by plate 1, told or not", x.two(0, 1, 1), 11);
+        x = Check.inn("g500;g500;h003;h103;l100;");
+        due("there are 2 of it", x.two(0, 1, 30), 11);
     }
 
     /** "-4": no such pair. */
@@ -405,7 +415,7 @@ public final class SlateEdgesTest {
     private static void drawsWrapAround() {
         // A murderer eats what is drawn second, and 2 of night 10.
         ServesWhatOneDreamt x = Check.inn("g404;");
-        int[] seeds = {0, 1, -1, 2, 65535, 65536, 1 << 30, Integer.MIN_VALUE, Integer.MAX_VALUE, Integer.MIN_VALUE + 1};
+        int[] seeds = {0, 1, -1, 2, 3, 6, 8, 65535, 65536, 1 << 30, Integer.MIN_VALUE, Integer.MAX_VALUE, Integer.MIN_VALUE + 1};
         for (int z : seeds) {
             int first = z * 1103515245 + 12345;
             int second = first * 1103515245 + 12345;
@@ -442,6 +452,26 @@ public final class SlateEdgesTest {
         due("one lacked once", x.count(3), 1);
         due("two of them", x.count(0), 2);
         due("no third", x.guest(2, 0), -1);
+    }
+
+    /** All of each of seven is kept, and looked at in mind. */
+    private static void imageOfSeven() {
+        ServesWhatOneDreamt x = Check.inn("g709;g618;g527;g436;g345;g254;g163;" + "e09;e18;e27;e36;e45;e54;e63;");
+        Check.tell(x, "h011;h122;h233;h344;h455;h566;h677;");
+        for (int g = 0; g < 7; g++) {
+            due("last plate in mind of " + g, x.guestThen(g, 0, 1), 9 - g);
+            due("health in mind of " + g, x.guestThen(g, 0, 0), 11 * (g + 1));
+        }
+        x.image();
+        Check.tell(x, "h099;h199;h299;h399;h499;h599;h699;d05;" + "w00;w10;w20;w30;w40;w50;w60;");
+        x.restore();
+        int[][] wanted = {{7, 6, 5, 4, 3, 2, 1}, {0, 1, 2, 3, 4, 5, 6}, {9, 8, 7, 6, 5, 4, 3}, {9, 8, 7, 6, 5, 4, 3},
+            {11, 22, 33, 44, 55, 66, 77}, {1, 1, 1, 1, 1, 1, 1}};
+        for (int what = 0; what < wanted.length; what++) {
+            for (int g = 0; g < 7; g++) {
+                due("guest(" + g + ", " + what + ") as it was", x.guest(g, what), wanted[what][g]);
+            }
+        }
     }
 
     /** The image of an inn without anybody: whoever comes behind it is number 0 again. */

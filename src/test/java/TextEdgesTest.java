@@ -323,6 +323,13 @@ public final class TextEdgesTest {
         due("the text stays on its shelf", Check.element(x, 7, 0), 'g');
         due("told twice it comes twice", x.inn(7), 8);
         due("guests", x.count(0), 4);
+        Check.write(x, 7, "g000;w29;e29;h201;l000;b19;d60;d00;");
+        x.image();
+        List<Long> before = Told.all(x);
+        due("a fault at the end", x.inn(7), -2031);
+        due("nothing came", Told.all(x).equals(before) ? 1 : 0, 1);
+        x.restore();
+        due("nor to the image", Told.all(x).equals(before) ? 1 : 0, 1);
     }
 
     /** "-1, -11, -12 (no ROW of bytes)": before any FAULT. */
