@@ -228,7 +228,8 @@ public final class SlateEdgesTest {
         mares(x, 7, 2, 99, 0, 1);
         x.heals(0, 99);
         mares(x, 7, 20, 99, 1, 1);
-        for (int[] a : new int[][] {{-1, 2, 0}, {8, 2, 0}, {1, 1, 0}, {1, 21, 0}, {1, 0, 0}, {1, -1, 0}, {1, 2, -1}, {1, 2, 100}}) {
+        int[][] beyond = {{-1, 2, 0}, {8, 2, 0}, {1, 1, 0}, {1, 21, 0}, {1, 0, 0}, {1, -1, 0}, {1, 2, -1}, {1, 2, 100}};
+        for (int[] a : beyond) {
             mares(x, a[0], a[1], a[2], REFUSED, REFUSED);
         }
         due("part 2", x.mares(0, 0, 2, 0, 2), REFUSED);
