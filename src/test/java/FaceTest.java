@@ -9,6 +9,7 @@ import java.util.Arrays;
 import java.util.List;
 import java.util.Set;
 import java.util.TreeSet;
+import java.util.regex.Matcher;
 import java.util.regex.Pattern;
 
 /** The public face of the document, and what the language's rules forbid as far as it can be seen here. */
@@ -23,6 +24,7 @@ public final class FaceTest {
 
     public static void main(String[] args) throws IOException {
         face();
+        methods(ServesWhatOneDreamt.class);
         nested();
         source();
         CHECK.end("FaceTest");
@@ -86,6 +88,7 @@ public final class FaceTest {
         Class<?>[] inside = ServesWhatOneDreamt.class.getDeclaredClasses();
         due("at most twelve classes", inside.length < 12);
         for (Class<?> n : inside) {
+            methods(n);
             int how = n.getModifiers();
             due(n.getName() + " is static", Modifier.isStatic(how));
             due(n.getName() + " is not public", !Modifier.isPublic(how) && !Modifier.isProtected(how));
@@ -98,12 +101,33 @@ public final class FaceTest {
         }
     }
 
+    /** Rule 11: "A method takes at most seven parameters". */
+    private static void methods(Class<?> c) {
+        for (Method m : c.getDeclaredMethods()) {
+            due(m.getName() + " takes at most seven", m.getParameterCount() <= 7);
+        }
+    }
+
+    /** Rule 11: "Methods stay short (some sixty lines)"; a method's lines end with a brace as deep as its first. */
+    private static void lengths(String code) {
+        Matcher method = Pattern.compile("(?m)^( +)[a-zA-Z][^\n=;]*\\) (?:throws [^{;]*)?\\{\n").matcher(code);
+        int methods = 0;
+        while (method.find()) {
+            int end = code.indexOf("\n" + method.group(1) + "}", method.end() - 1);
+            long lines = code.substring(method.start(), Math.max(method.start(), end)).lines().count();
+            methods++;
+            due(method.group().strip() + " is short", lines > 0 && lines <= 60);
+        }
+        due("methods are found", methods >= 38);
+    }
+
     private static void source() throws IOException {
         String text = Files.readString(SOURCE);
         String code = text.replaceAll("(?s)/\\*.*?\\*/", "").replaceAll("//[^\n]*", "");
         for (String word : FORBIDDEN) {
             due("no " + word, !Pattern.compile(word).matcher(code).find());
         }
+        lengths(code);
         due("ASCII alone", text.chars().allMatch(sign -> sign < 127));
     }
 }
